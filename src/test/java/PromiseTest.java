@@ -314,6 +314,8 @@ public final class PromiseTest {
         geometric(x, 2, 9, 1, 1, 1, 1, 2);
         x.grind(0, 2, 4, 5);
         x.grind(1, 2, 5, 6);
+        due("into one of another sum", x.join(0, 1, 6), 2);
+        due("which has this sum now", x.span(6, 0), 2);
         due("meets", x.join(0, 1, 0), 2);
         due("T is 9 and 81", x.word(0, 3, 0), 90);
     }
@@ -408,6 +410,7 @@ public final class PromiseTest {
         due("by 7", x.rest(0, 0, 7), 0);
         due("by 2", x.rest(0, 0, 2), 1);
         due("by a million", x.rest(0, 0, 1000000), 1000000 - 823543);
+        due("by one less: -1", x.rest(0, 0, 823542), 823541);
         x.grind(0, 0, 1, 73);
         due("7 to the 72, by 11", x.rest(0, 0, 11), 5);
         due("900 to the 72, by a million", x.rest(0, 1, 1000000), 0);
@@ -444,6 +447,14 @@ public final class PromiseTest {
         }
         due("far", x.word(0, 1, MOST), 0);
         due("far", x.word(0, 1, 1 << 28), 0);
+        // ones alone: 4 to the n, upon 4 (1 - 1/4), is 3 + 3 times 4 + ..
+        geometric(x, 1, 1, 4, 3, 1, 1, 4);
+        x.grind(2, 1, 1, 49);
+        due("96 bits", x.bits(2, 3), 96);
+        for (int k = 0; k < 6; k++) {
+            due("ones at " + k, x.word(2, 3, k), 0xFFFF);
+        }
+        due("none beyond", x.word(2, 3, 6), 0);
         due("k", x.word(0, 1, -1), OUTSIDE);
         due("k", x.word(0, 1, LEAST), OUTSIDE);
         due("k, empty", x.word(1, 1, -1), OUTSIDE);
@@ -475,6 +486,15 @@ public final class PromiseTest {
             due("one of the NUMBERS has the other sign", x.same(0, 1), 0);
             due("and so the other way", x.same(1, 0), 0);
         }
+        for (int s = 2; s < 4; s++) {
+            geometric(x, s, 1, 1, 0, 1, 1, 2);
+            x.rule(s, 2, s == 2 ? -3 : 3, s == 2 ? 2 : -2, 0);
+            x.grind(2, s, 1, 2);
+            x.grind(3, s, 2, 3);
+            due("-1 + 1 and 1 - 1", x.join(2, 3, s + 2), 2);
+            due("are 0", x.sign(s + 2, 3), 0);
+        }
+        due("0 has one sign", x.same(4, 5), 1);
         due("empty", x.same(0, 7), STATE);
         due("empty", x.same(7, 0), STATE);
         due("no drawer", x.same(7, 8), UNKNOWN);
@@ -612,13 +632,23 @@ public final class PromiseTest {
         x.part(3, 1, 7, 1);
         due("0", x.figures(3, 36, 100, 9), NONE);
         due("sign", x.signOf(), 0);
+        // B or Q below 0 turn the sign: -2/3 times 7/8
+        geometric(x, 4, 1, -7, 2, -3, 1, 7);
+        x.clear(3);
+        x.part(3, 4, 1, 1);
+        for (int terms = 9; terms <= 12; terms++) {
+            due("-7/12", x.figures(3, 10, 5, terms), 5);
+            due("sign", x.signOf(), -1);
+            due("whole", x.whole(), 0);
+            reads(x, "58333");
+        }
         // parts with m = 0 count for nothing but their FALLS
         x.clear(3);
         x.part(3, 1, 7, 1);
         x.part(3, 5, 0, 1);
-        due("sum 5 falls at 0", x.figures(3, 10, 5, 5), -100);
+        due("sum 5 falls at 0", x.figures(3, 12, 5, 5), -100);
         due("the result stays", x.about(0), 3);
-        due("the result stays", x.about(1), 36);
+        due("the result stays", x.about(1), 10);
         geometric(x, 5, 1, 3, 1, 1, 1, 3);
         due("1", x.figures(3, 10, 5, 5), 5);
         // FALLS: the first such part's
@@ -687,6 +717,16 @@ public final class PromiseTest {
         due("none to try", x.need(0, 10, 0), NO);
         x.part(3, 5, 1, 1);
         due("none to try", x.need(3, 10, 0), NO);
+        x.clear(3);
+        x.part(3, 2, 1, 1);
+        due("a part that was cleared is not asked", x.need(3, 10, 0), 2);
+        // one TERM is enough, and its ratio to the second one lets it fall
+        geometric(x, 2, 1, 999, 3, 2, 1, 999);
+        due("3/2 more or less 3/1996, then 1.5015..", x.need(3, 10, 2), 2);
+        due("the whole", x.need(3, 10, 0), 1);
+        x.bound(2, 1, 1000000);
+        due("with just one", x.need(3, 3, 9), 1);
+        due("which falls at 1", x.need(3, 10, 9), NO);
         // exact from the first TERM on
         geometric(x, 5, 1, 3, 1, 4, 1, 3);
         x.rule(5, 2, 0, 0, 0);
@@ -900,6 +940,9 @@ public final class PromiseTest {
         due("at the fourth", x.agree(0, 1, 10, 4, 5), 4);
         due("three of them", x.agree(0, 1, 10, 3, 5), NONE);
         due("sign", x.agree(1, 2, 10, 3, 5), 0);
+        x.part(3, 1, 1750, 1);
+        due("3.142 and 3.5 differ in the first", x.agree(1, 3, 10, 3, 5), 1);
+        x.clear(3);
         due("-3.142 and itself", x.agree(2, 2, 10, 100, 5), NONE);
         x.part(1, 1, 1000, 1);
         due("whole", x.agree(0, 1, 10, 0, 5), 0);
