@@ -813,8 +813,8 @@ public final class ConstantMill {
          * behind the point too, and lets it fill its highest limb, as a quotient's guess needs it.
          */
         private void scale() {
-            under.times(1 << 30);
-            under.times(1 << 30);
+            under.times(1 << LIMB_BITS);
+            under.times(1 << LIMB_BITS);
             under.times(1 << 2);
             int free = LIMB_BITS * under.size - under.bitLength();
             under.times(1 << free);
@@ -824,14 +824,15 @@ public final class ConstantMill {
 
         private boolean readWhole(Big lesser, Big greater, Figures into) {
             long whole = 0;
-            for (int shift = 30, i = 0; i < 3; i++) {
+            int shift = LIMB_BITS;
+            for (int i = 0; i < 3; i++) {
                 int ofLesser = lesser.takeQuotient(1 << shift, under);
                 int ofGreater = greater.takeQuotient(1 << shift, under);
                 if (ofLesser != ofGreater) {
                     return false;
                 }
                 whole = (whole << shift) + ofLesser;
-                shift = i == 0 ? 30 : 2;
+                shift = i == 0 ? LIMB_BITS : 2;
             }
             into.whole = whole;
             into.sure = 0;
