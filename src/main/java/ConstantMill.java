@@ -301,29 +301,29 @@ public final class ConstantMill {
     // ---- the result; 0 without it
 
     public int signOf() {
-        return hasResult ? result.sign : 0;
+        return result.sign;
     }
 
     public long whole() {
-        return hasResult ? result.whole : 0;
+        return result.whole;
     }
 
     public int figure(int i) {
-        return hasResult ? result.behindPoint(i) : 0;
+        return result.behindPoint(i);
     }
 
     public int count(int figure) {
         if (figure < 0 || figure >= MOST_BASE) {
             return OUTSIDE;
         }
-        return hasResult ? result.howOften(figure) : 0;
+        return result.howOften(figure);
     }
 
     public int where(int row, int n) {
         if (n < 1 || n > 5) {
             return OUTSIDE;
         }
-        return hasResult ? result.placeOf(row, n) : 0;
+        return result.placeOf(row, n);
     }
 
     public int about(int what) {
@@ -681,7 +681,10 @@ public final class ConstantMill {
         }
     }
 
-    /** What is SURE of a CONSTANT in a base. */
+    /**
+     * What is SURE of a CONSTANT in a base. As it is made nothing is SURE, SIGN and WHOLE are 0:
+     * so the calls of the result need not ask whether there is one, but for about.
+     */
     private static final class Figures {
         private final int[] row = new int[MOST_FIGURES];
         private int constant;

@@ -401,7 +401,7 @@ final class OracleMill {
 
     int figure(int i) {
         if (result == null) {
-            return 0;
+            return NONE;
         }
         return in(i, 1, result.sure) ? result.row[i - 1] : NONE;
     }
@@ -422,7 +422,7 @@ final class OracleMill {
             return OUTSIDE;
         }
         if (result == null) {
-            return 0;
+            return NONE;
         }
         for (int place = 1; place + n - 1 <= result.sure; place++) {
             int rest = row;

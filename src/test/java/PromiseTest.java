@@ -791,10 +791,36 @@ public final class PromiseTest {
         due("none", x.whole(), 0);
     }
 
+    /** need and agree tell figures, too, but not as THE RESULT. */
+    private static void noResultYet(ConstantMill x) {
+        geometric(x, 0, 0, 1, 1, 7, 1, 2);
+        x.part(0, 0, 22, 1);
+        due("need", x.need(0, 10, 6), 2);
+        due("agree", x.agree(0, 0, 10, 6, 2), NONE);
+        due("no sign", x.signOf(), 0);
+        due("no whole", x.whole(), 0);
+        due("no figure", x.figure(1), NONE);
+        due("no count", x.count(1), 0);
+        due("no place", x.where(1, 1), NONE);
+        due("no result", x.about(4), STATE);
+        x.clear(0);
+    }
+
     private static void promise23() {
         ConstantMill x = new ConstantMill();
-        due("no result", x.figure(1), 0);
-        due("no result", x.figure(0), 0);
+        due("no result", x.figure(1), NONE);
+        due("no result", x.figure(0), NONE);
+        due("no result", x.figure(-1), NONE);
+        due("no result", x.figure(100), NONE);
+        due("no result", x.figure(MOST), NONE);
+        due("no result", x.figure(LEAST), NONE);
+        due("refused", x.figures(0, 1, 5, 5), OUTSIDE);
+        due("no result came of it", x.figure(1), NONE);
+        x.part(1, 0, 1, 1);
+        due("it falls", x.figures(1, 10, 5, 5), -100);
+        due("no result came of it", x.figure(1), NONE);
+        x.clear(1);
+        noResultYet(x);
         geometric(x, 0, 0, 1, 1, 7, 1, 2);
         x.part(0, 0, 22, 1);
         x.figures(0, 10, 6, 2);
@@ -851,8 +877,16 @@ public final class PromiseTest {
 
     private static void promise25() {
         ConstantMill x = new ConstantMill();
-        due("no result", x.where(0, 1), 0);
+        for (int n = 1; n <= 5; n++) {
+            due("no result", x.where(0, n), NONE);
+            due("no result", x.where(MOST, n), NONE);
+            due("no result", x.where(LEAST, n), NONE);
+        }
+        due("no result, n", x.where(0, 0), OUTSIDE);
         due("no result, n", x.where(0, 6), OUTSIDE);
+        due("refused", x.figures(0, 10, 5, 0), OUTSIDE);
+        due("no result came of it", x.where(0, 1), NONE);
+        noResultYet(x);
         geometric(x, 0, 0, 1, 1, 7, 1, 2);
         x.part(0, 0, 22, 1);
         x.figures(0, 10, 12, 2);
