@@ -566,14 +566,19 @@ public final class PromiseTest {
 
     private static String read(ConstantMill x) {
         StringBuilder text = new StringBuilder();
-        for (int i = 1; i <= 101 && x.figure(i) != NONE; i++) {
-            text.append(Character.forDigit(x.figure(i), 36));
+        for (int i = 1; i <= 101; i++) {
+            int figure = x.figure(i);
+            if (figure == NONE) {
+                break;
+            }
+            text.append(Character.forDigit(figure, 36));
         }
         return text.toString();
     }
 
     private static void reads(ConstantMill x, String want) {
-        due("figures " + read(x) + ", not " + want, read(x).equals(want) ? 1 : 0, 1);
+        String have = read(x);
+        due("figures " + have + ", not " + want, have.equals(want) ? 1 : 0, 1);
     }
 
     private static void promise19() {

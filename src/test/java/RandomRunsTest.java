@@ -298,11 +298,12 @@ public final class RandomRunsTest {
     }
 
     private void run() {
+        long before = asked;
         for (int s = 0; s < 6 && style != 3; s++) {
             setSum(s);
         }
-        long end = asked + CALLS - 320;
-        while (asked < end) {
+        // the last step may be a join with its four calls or a sum with its five, and askAll has 290
+        while (asked - before < CALLS - 300) {
             switch (draw(10)) {
                 case 0:
                     sums();
