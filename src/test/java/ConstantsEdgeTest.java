@@ -212,6 +212,15 @@ public final class ConstantsEdgeTest extends Edges {
             due("just not", x.figures(0, 10, 5, 99), NONE);
             x.part(0, 5, 1, 1);
             due("at 0", x.figures(0, 10, 5, 1), -100);
+            // by its BOUND
+            rules(x, 4, 1, 3, 5, 1);
+            x.bound(4, 1, 3);
+            x.part(1, 4, 1, 7);
+            due("just within it", x.figures(1, 10, 0, 100), 0);
+            x.bound(4, 333333, 1000000);
+            due("beyond it at 1", x.figures(1, 10, 0, 100), -101);
+            due("beyond it at 1", x.figures(1, 10, 0, 2), -101);
+            due("0 alone is not asked", x.figures(1, 10, 0, 1), NONE);
         });
     }
 
@@ -279,6 +288,17 @@ public final class ConstantsEdgeTest extends Edges {
             due("14 is not", x.need(1, 10, 10), 14);
             x.part(1, 5, 0, 1);
             due("falls with the first TERM", x.need(1, 10, 0), NO);
+            // by its BOUND
+            rules(x, 3, 1, 3, 5, 1);
+            x.bound(3, 1, 3);
+            x.part(3, 3, 1, 7);
+            due("four have the WHOLE: 1.04 to 1.07", x.need(3, 10, 0), 4);
+            x.bound(3, 333333, 1000000);
+            due("the second lets it fall", x.need(3, 10, 0), NO);
+            eulers(x, 2, 3);
+            due("e - 1", x.need(2, 10, 0), 3);
+            x.bound(3, 499999, 1000000);
+            due("the second alone is beyond its BOUND", x.need(2, 10, 0), NO);
         });
         on("NO: with none of these.", () -> {
             Furnished.keeps("without parts", NO, x -> x.need(3, 10, 0));

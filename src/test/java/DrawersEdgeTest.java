@@ -23,6 +23,17 @@ public final class DrawersEdgeTest extends Edges {
                 due("with its NUMBERS", numbers(x, d), "4 25 9 " + (2 * -5 * 3 + 4 * 3));
                 Furnished.changes("and no other", 2, y -> y.grind(drawer, 1, 1, 3), "drawer " + d);
             }
+            // nothing of a longer SPAN stays behind in a shorter one
+            ConstantMill z = new ConstantMill();
+            rules(z, 0, 998, 999, 997, 996);
+            z.bound(0, 998, 999);
+            z.grind(0, 0, 0, 100);
+            z.grind(0, 0, 1, 3);
+            due("two TERMS", numbers(z, 0), "996004 998001 992016 " + 996L * 997 * 998 * (999 + 998));
+            for (int which = 0; which < 4; which++) {
+                due("rest", z.rest(0, which, 999983), number(z, 0, which).longValue() % 999983);
+                due("far", z.word(0, which, 100), 0);
+            }
             Furnished.changes("all", 100, x -> x.grind(6, 3, 0, 100), "drawer 6");
             Furnished.changes("the last", 1, x -> x.grind(6, 3, 99, 100), "drawer 6");
             Furnished.keeps("the same again", 10, x -> x.grind(0, 0, 0, 10));
@@ -210,6 +221,9 @@ public final class DrawersEdgeTest extends Edges {
             Furnished.changes("into d", 15, x -> x.join(0, 1, 0), "drawer 0");
             Furnished.changes("into e", 15, x -> x.join(0, 1, 1), "drawer 1");
             Furnished.keeps("an empty SPAN with itself", 0, x -> x.join(4, 4, 4));
+            ConstantMill y = Furnished.make();
+            y.join(0, 1, 2);
+            due("of another sum it has this one's now", span(y, 2), "0: 0 to 15");
             ConstantMill x = odd();
             x.grind(0, 0, 0, 100);
             for (int middle = 0; middle <= 100; middle += 10) {
@@ -649,8 +663,21 @@ public final class DrawersEdgeTest extends Edges {
             x.grind(1, 0, 0, 99);
             due("long ones", x.same(0, 1), 1);
             due("itself", x.same(0, 0), 1);
-            x.grind(1, 0, 0, 98);
-            due("one TERM less", x.same(0, 1), 0);
+            for (int j : new int[] {98, 40, 9, 0}) {
+                x.grind(1, 0, 0, j);
+                due("fewer TERMS", x.same(0, 1), 0);
+                due("fewer TERMS", x.same(1, 0), 0);
+            }
+            // T is 0 from above and from below: a is -1 and 1, or 1 and -1
+            for (int s = 2; s < 4; s++) {
+                rules(x, s, 1, 1, 1, 1);
+                x.rule(s, 2, s == 2 ? -3 : 3, s == 2 ? 2 : -2, 0);
+                x.bound(s, 999999, 1000000);
+                due("the first", x.grind(2, s, 1, 2), 1);
+                due("the second", x.grind(3, s, 2, 3), 1);
+                due("both", x.join(2, 3, s + 2), 2);
+            }
+            due("0 has one sign", x.same(4, 5), 1);
             Furnished.keeps("asking", 0, y -> y.same(0, 1));
         });
         on("UNKNOWN", () -> {

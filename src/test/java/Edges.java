@@ -15,7 +15,7 @@ class Edges {
     /** What at and told say instead of UNKNOWN and OUTSIDE. */
     static final int NO_SUCH = -1000000001, NOT_THERE = -1000000002;
 
-    private static final String DOCUMENT = read();
+    private static final String DOCUMENT = read("../shared/DOC.md");
     private static String heading = "";
     private static String section = "";
     private static boolean[] tested = {};
@@ -24,11 +24,11 @@ class Edges {
     private static int asked = 0;
     private static int wrong = 0;
 
-    private static String read() {
+    private static String read(String file) {
         try {
-            return Files.readString(Path.of("../shared/DOC.md"));
+            return Files.readString(Path.of(file));
         } catch (IOException e) {
-            throw new IllegalStateException("the document can't be read", e);
+            throw new IllegalStateException(file + " can't be read", e);
         }
     }
 
@@ -127,6 +127,26 @@ class Edges {
                 complain("there is no test for these words");
             }
         }
+    }
+
+    /** Each promise of the document has its place in one of the tests that go sentence by sentence. */
+    static void everyPromise() {
+        endSection();
+        section = "";
+        StringBuilder tests = new StringBuilder();
+        for (String name : new String[] {"Sums", "Drawers", "Constants", "Result"}) {
+            tests.append(read("src/test/java/" + name + "EdgeTest.java"));
+        }
+        int promises = 0;
+        for (String line : DOCUMENT.split("\n")) {
+            if (line.startsWith("## Promise ")) {
+                promises++;
+                sentence = line;
+                String call = line.substring(11).replaceFirst(": (.*)", ", \"$1\")");
+                due("tests that name it", tests.indexOf("promise(" + call) >= 0);
+            }
+        }
+        due("promises", promises, 27);
     }
 
     /** Ends the program, with 1 if an answer was wrong or words are left. */

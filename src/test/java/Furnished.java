@@ -54,7 +54,7 @@ final class Furnished {
         return x;
     }
 
-    /** All that can be asked; it uses the object up, for the BOUNDS are seen by what a constant needs alone. */
+    /** All that can be asked. It takes constant 3 for what each BOUND does, so it comes at the end. */
     private static List<Answer> state(ConstantMill x) {
         List<Answer> all = new ArrayList<>();
         for (int c = 0; c < 4; c++) {

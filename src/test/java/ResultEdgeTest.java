@@ -438,6 +438,14 @@ public final class ResultEdgeTest extends Edges {
             x.part(0, 5, 0, 1);
             due("its first part's", x.agree(0, 1, 10, 5, 10), -109);
             due("its second part's", x.agree(0, 1, 10, 5, 9), -100);
+            x.clear(2);
+            rules(x, 3, 1, 2, 1, 1);
+            x.part(2, 3, 1, 1);
+            due("just within its BOUND", x.agree(2, 2, 10, 5, 9), NONE);
+            x.bound(3, 1, 3);
+            due("beyond it", x.agree(2, 3, 10, 5, 9), -101);
+            due("beyond it", x.agree(3, 2, 10, 5, 9), -101);
+            due("0 alone is not asked", x.agree(2, 3, 10, 5, 1), NONE);
         });
         on("(THE RESULT stays.)", () -> {
             Furnished.keeps("they differ", 0, x -> x.agree(0, 1, 7, 9, 30));

@@ -2,12 +2,18 @@ import java.math.BigInteger;
 
 /** What the document is about and its terms, sentence by sentence. */
 public final class TermsEdgeTest extends Edges {
+    /** RULES that fall nowhere, of which no two are alike; and such with the longest NUMBERS. */
+    private static final int[][] UNLIKE = {{3, -2, 1}, {-80, 7, -9}, {-5, -3, 2}, {4, -9, -3}};
+    private static final int[][] LONGEST = {{-998, -998, -998}, {999, 999, 999}, {999, 999, 999},
+        {-999, -999, -999}};
+
     private static void whatItIs() {
         section("What it is");
-        free("A mill for figures of constants: sums told by rules of polynomials, ground span by span "
-                + "into whole numbers of any length, that are kept in drawers, joined, gone on; "
-                + "constants made of such sums; figures in a base, of which just those are told that "
-                + "no term left out could change.");
+        free("A mill for figures of constants: sums told by rules of polynomials");
+        on("ground span by span into whole numbers of any length, that are kept in drawers, joined, "
+                + "gone on", TermsEdgeTest::longest);
+        on("constants made of such sums; figures in a base, of which just those are told that no term "
+                + "left out could change.", TermsEdgeTest::longestFigures);
         on("An object is used for at most 512 calls after it has been made", () -> {
             ConstantMill x = new ConstantMill();
             eulers(x, 0, 0);
@@ -33,6 +39,52 @@ public final class TermsEdgeTest extends Edges {
             }
             due("goes on", x.figures(0, 10, 3, 50) != STATE);
         });
+    }
+
+    /** All four RULES as large as they can be, for all TERMS; ground, gone on, joined. */
+    private static void longest() {
+        for (int which = 0; which < 4; which++) {
+            for (int way = 0; way < 3; way++) {
+                ConstantMill x = new ConstantMill();
+                for (int rule = 0; rule < 4; rule++) {
+                    x.rule(0, rule, LONGEST[rule][0], LONGEST[rule][1], LONGEST[rule][2]);
+                }
+                x.bound(0, 998, 999);
+                x.grind(0, 0, 0, way == 0 ? 100 : 50);
+                x.grind(1, 0, 50, 100);
+                due("whole", way == 1 ? x.more(0, 50) : way == 2 ? x.join(0, 1, 0) : 100, 100);
+                due("NUMBER " + which, number(x, 0, which).toString(),
+                        byDefinition(LONGEST, which, 0, 100).toString());
+            }
+        }
+    }
+
+    /** Four parts, whose denominators are as long as they can be. */
+    private static void longestFigures() {
+        for (int base = 2; base <= 36; base += 17) {
+            ConstantMill x = new ConstantMill();
+            OracleMill oracle = new OracleMill();
+            for (int s = 0; s < 4; s++) {
+                int[][] rules = {{s + 1, 0, 0}, {999, 999 - s, 999}, {999 - s, 999, 999}, {-998, -999, s - 999}};
+                for (int which = 0; which < 4; which++) {
+                    x.rule(s, which, rules[which][0], rules[which][1], rules[which][2]);
+                    oracle.rule(s, which, rules[which][0], rules[which][1], rules[which][2]);
+                }
+                x.bound(s, 1000 + 1000 * s, 999999);
+                oracle.bound(s, 1000 + 1000 * s, 999999);
+                due("part", x.part(0, s, 1000000 - s, 999983), oracle.part(0, s, 1000000 - s, 999983));
+            }
+            due("figures", x.figures(0, base, 100, 100), oracle.figures(0, base, 100, 100));
+            due("all are SURE", x.about(4), 100);
+            due("sign", x.signOf(), oracle.signOf());
+            due("whole", x.whole(), oracle.whole());
+            for (int i = 1; i <= 100; i++) {
+                due("figure " + i, x.figure(i), oracle.figure(i));
+            }
+            due("with 30 TERMS", x.figures(0, base, 100, 30), oracle.figures(0, base, 100, 30));
+            due("with 3", x.figures(0, base, 100, 3), oracle.figures(0, base, 100, 3));
+            due("need", x.need(0, base, 100), oracle.need(0, base, 100));
+        }
     }
 
     private static void everything(ConstantMill x, int i, int j, int k) {
@@ -364,6 +416,11 @@ public final class TermsEdgeTest extends Edges {
         due("just missed", firstRatio(new int[] {2, 4, 3, 3, 5, 5, 499999, 1000000}), 1);
         due("just met", firstRatio(new int[] {998, 999, 7, 9, 7, 9, 998, 999}), NONE);
         due("just missed", firstRatio(new int[] {998, 999, 7, 9, 7, 9, 997, 998}), 1);
+        // on both sides of 2 to the 30, where a long product may be cut in two
+        due("1074000000 and 1073741175", firstRatio(new int[] {1074, 1075, 1, 1, 1, 1, 998829, 1000000}), 1);
+        due("1073000000 and 1073998926", firstRatio(new int[] {1073, 1074, 1, 1, 1, 1, 999999, 1000000}), NONE);
+        due("both 2 to the 30", firstRatio(new int[] {1024, 1024, 2, 1, 4, 1, 262144, 524288}), NONE);
+        due("2 to the 30 and 4096 less", firstRatio(new int[] {1024, 1024, 2, 1, 4, 1, 262143, 524288}), 1);
         // 90 bits: p and q go as 998 and 999 of one polynomial, a and b as another
         ConstantMill x = new ConstantMill();
         x.rule(0, 0, 998, 998, 998);
@@ -400,8 +457,8 @@ public final class TermsEdgeTest extends Edges {
     /** Where a sum falls whose p(1), q(1), a(1), b(1), a(0), b(0), u, v are these. */
     private static int firstRatio(int[] of) {
         ConstantMill x = new ConstantMill();
-        x.rule(0, 0, of[0], 0, 0);
-        x.rule(0, 1, of[1], 0, 0);
+        x.rule(0, 0, of[0] - of[0] / 2, of[0] / 2, 0);
+        x.rule(0, 1, of[1] - of[1] / 2, of[1] / 2, 0);
         x.rule(0, 2, of[4], of[2] - of[4], 0);
         x.rule(0, 3, of[5], of[3] - of[5], 0);
         x.bound(0, of[6], of[7]);
@@ -518,28 +575,25 @@ public final class TermsEdgeTest extends Edges {
         due("grind", x.grind(0, 0, i, j), j - i);
         for (int which = 0; which < 4; which++) {
             if (one == 4 || one == which) {
-                due("NUMBER " + which, number(x, 0, which).toString(), byDefinition(which, i, j).toString());
+                due("NUMBER " + which, number(x, 0, which).toString(), byDefinition(UNLIKE, which, i, j).toString());
             }
         }
     }
 
-    /** RULES that fall nowhere, of which no two are alike. */
-    private static final int[][] UNLIKE = {{3, -2, 1}, {-80, 7, -9}, {-5, -3, 2}, {4, -9, -3}};
-
-    private static BigInteger value(int which, int k) {
-        int[] c = UNLIKE[which];
+    private static BigInteger value(int[][] rules, int which, int k) {
+        int[] c = rules[which];
         return k == 0 && which < 2 ? BigInteger.ONE : BigInteger.valueOf(c[0] + c[1] * k + c[2] * k * k);
     }
 
-    private static BigInteger byDefinition(int which, int i, int j) {
+    private static BigInteger byDefinition(int[][] rules, int which, int i, int j) {
         BigInteger sum = BigInteger.ZERO;
         BigInteger product = BigInteger.ONE;
         for (int k = i; k < j; k++) {
-            product = product.multiply(value(which == 2 ? 3 : which, k));
-            BigInteger addend = value(2, k);
+            product = product.multiply(value(rules, which == 2 ? 3 : which, k));
+            BigInteger addend = value(rules, 2, k);
             for (int m = i; m < j; m++) {
-                addend = addend.multiply(value(m <= k ? 0 : 1, m));
-                addend = addend.multiply(m == k ? BigInteger.ONE : value(3, m));
+                addend = addend.multiply(value(rules, m <= k ? 0 : 1, m));
+                addend = addend.multiply(m == k ? BigInteger.ONE : value(rules, 3, m));
             }
             sum = sum.add(addend);
         }
@@ -614,6 +668,20 @@ public final class TermsEdgeTest extends Edges {
             x.part(0, 0, 0, 1);
             due("a part with m = 0 adds nothing", x.figures(0, 10, 5, 1), 0);
             due("whole", x.whole(), 5);
+            // one part's E, 2.99.., is far above its X, and the other's X above or below it
+            rules(x, 0, -998, 999, 1, 1);
+            x.bound(0, 999999, 1000000);
+            rules(x, 1, 0, 1, 1, 1);
+            x.clear(0);
+            x.part(0, 0, 3, 1000000);
+            x.part(0, 1, 7, 2);
+            due("3.5", x.figures(0, 10, 5, 2), NONE);
+            due("LOW is above 0", x.signOf(), 1);
+            x.clear(0);
+            x.part(0, 0, 3, 1000000);
+            x.part(0, 1, 29, 10);
+            due("2.9", x.figures(0, 10, 5, 2), NONE);
+            due("LOW is below 0", x.signOf(), 0);
         });
         on("LOW is X - E, HIGH X + E.", () -> {
             ConstantMill x = new ConstantMill();
@@ -753,6 +821,9 @@ public final class TermsEdgeTest extends Edges {
             due("0.666", result(x), "+0.666");
             between(x, 0, 6661, 6670, 10000);
             due("0.6661 to 0.667", x.figures(0, 10, 5, 1), 2);
+            for (int i = 0; i < 60; i++) {
+                exactFraction(999983 - 16661 * i, 1000000 - 7 * i, 1 + 17 * i, 2 + 34 * i % 35);
+            }
             // 0.5 in base 3 is 0.111.., in base 2 0.1
             exactly(x, 0, 1, 2);
             x.figures(0, 3, 7, 2);
@@ -781,6 +852,23 @@ public final class TermsEdgeTest extends Edges {
         }
         due("all", x.figures(1, 10, 6, 100), 6);
         due("below 0", result(x), "-149847502499.200799");
+    }
+
+    /** m / n times 1 / b, of which 100 figures are asked; its BOUND is a long one, too. */
+    private static void exactFraction(int m, int n, int b, int base) {
+        ConstantMill x = new ConstantMill();
+        rules(x, 0, 0, 1, 1, b > 999 ? 999 : b);
+        x.bound(0, 1, 999999 - b);
+        x.part(0, 0, m, n);
+        due("all", x.figures(0, base, 100, 2), 100);
+        long below = (long) n * (b > 999 ? 999 : b);
+        long rest = Math.abs(m) % below;
+        due("whole", x.whole(), Math.abs(m) / below);
+        for (int i = 1; i <= 100; i++) {
+            rest *= base;
+            due("figure " + i + " of " + m + " / " + below, x.figure(i), rest / below);
+            rest %= below;
+        }
     }
 
     private static void latest() {
@@ -839,6 +927,7 @@ public final class TermsEdgeTest extends Edges {
         constants();
         figures();
         faces();
+        everyPromise();
         end();
     }
 }
